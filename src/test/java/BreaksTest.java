@@ -9,6 +9,7 @@ final class BreaksTest {
         coldAheadWarmBehind();
         latestFirst();
         toldAhead();
+        toTheHour();
         withoutLegs();
     }
 
@@ -127,6 +128,30 @@ final class BreaksTest {
         Due.is("told behind: in 0", x.lost(0, 0), 1);
         x.engine(3, 0);
         Due.is("no coal", x.lost(100, 0), 1);
+    }
+
+    private static void toTheHour() {
+        // 6 an HOUR for 100 HOURS, but nothing from the first HOUR on in which the ENGINE runs.
+        ColdHolds x = open();
+        x.outer(0, 0);
+        x.warm(0, 10);
+        x.engine(1, 60);
+        x.engine(3, 9999);
+        for (int leg = 0; leg < 5; leg++) {
+            x.leg(16, 150);
+        }
+        x.leg(20, 150);
+        x.lot(1, 0);
+        Due.is("broken from now on", x.lost(0, 0), 1);
+        Due.is("broken an hour on", x.lost(1, 0), 0);
+        x.breaks(0);
+        Due.is("told so", x.lost(1, 0), 1);
+        Due.is("49 and 49", x.lost(49, 1), 0);
+        Due.is("50 and 50", x.lost(50, 1), 1);
+        x.hours(1);
+        Due.is("99 hours left, one gone by", x.lost(0, 0), 1);
+        Due.is("49 on, 50 back", x.lost(49, 1), 1);
+        Due.is("48 on, 49 back", x.lost(48, 1), 0);
     }
 
     private static void withoutLegs() {

@@ -8,6 +8,7 @@ final class LotsTest {
         refused();
         spoiling();
         states();
+        oneAnHour();
         worth();
         casts();
         lay();
@@ -96,6 +97,28 @@ final class LotsTest {
             Due.is("rot", x.about(0, 2), rot);
             Due.is("state", x.about(0, 3), rot >= 600 ? 3 : rot >= 300 ? 2 : rot >= 100 ? 1 : 0);
         }
+    }
+
+    private static void oneAnHour() {
+        // 1 an HOUR, in each of as many LOTS as there can be
+        ColdHolds x = still(-40);
+        for (int lot = 0; lot < 20; lot++) {
+            x.lot(1, lot % 12);
+        }
+        int[] from = {100, 300, 600};
+        for (int s = 0; s < 3; s++) {
+            while (x.count(1) < from[s] - 1) {
+                x.hours(Math.min(100, from[s] - 1 - x.count(1)));
+            }
+            Due.is("state, rot " + (from[s] - 1), x.about(19, 3), s);
+            Due.is("worth, rot " + (from[s] - 1), x.about(19, 5), 30 * (100 - 25 * s));
+            Due.is("lost, rot " + (from[s] - 1), x.lost(0, 0), 0);
+            x.hours(1);
+            Due.is("state, rot " + from[s], x.about(19, 3), s + 1);
+            Due.is("came", x.about(19, 6 + s), from[s] - 1);
+            Due.is("lost, rot " + from[s], x.lost(0, 0), s == 2 ? 20 : 0);
+        }
+        Due.is("back", x.lost(1, 1), 20);
     }
 
     private static void worth() {

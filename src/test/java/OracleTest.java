@@ -146,7 +146,7 @@ final class OracleTest {
             x.outer(c, g.outer[c / 4][c % 4]);
             x.pipe(c, g.pipe[c / 4][c % 4]);
         }
-        int legs = r.nextInt(6);
+        int legs = r.nextInt(7);
         for (int leg = 0; leg < legs; leg++) {
             int hours = from(r, 1, 60);
             int sea = from(r, -50, 400);

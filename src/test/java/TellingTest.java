@@ -11,7 +11,7 @@ final class TellingTest {
 
     private static ColdHolds much() {
         ColdHolds x = new ColdHolds();
-        x.leg(150, 210);
+        x.leg(100, 210);
         x.leg(200, -40);
         x.leg(120, 333);
         x.warm(3, -77);
@@ -108,7 +108,7 @@ final class TellingTest {
             h = fold(h, x.warmth(cell), cell == 9 ? 11 : 4, cell == 6 ? 1 : 0);
         }
         h = fold(h, 7, 33, 2);
-        h = fold(h, 210, 210, -40, -40, 333, 333, 333, 333, 333, 333, 333, 333, 333);
+        h = fold(h, 210, -40, -40, 333, 333, 333, 333, 333, 333, 333, 333, 333, 333);
         for (int lot = 0; lot < 2; lot++) {
             for (int what = 0; what <= 8; what++) {
                 h = fold(h, x.about(lot, what));
