@@ -18,6 +18,10 @@ public final class AllTests {
         PlanTest.run();
         TellingTest.run();
         OracleTest.run();
+        EdgesTest.run();
+        HoldEdgesTest.run();
+        LotEdgesTest.run();
+        TextEdgesTest.run();
         AnyCallTest.run();
         System.out.println(Due.passed + " passed, " + Due.failed + " failed");
         if (Due.failed != 0) {

@@ -17,6 +17,15 @@ final class Due {
         }
     }
 
+    static void isNot(String call, long got, long refusal) {
+        if (got != refusal) {
+            passed++;
+        } else {
+            failed++;
+            System.out.println(call + " was refused with " + got);
+        }
+    }
+
     /** A refusal is answered, and changes nothing. */
     static void refuses(ColdHolds x, String call, long want, LongSupplier asked) {
         long before = x.digest();
