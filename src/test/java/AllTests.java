@@ -22,6 +22,11 @@ public final class AllTests {
         HoldEdgesTest.run();
         LotEdgesTest.run();
         TextEdgesTest.run();
+        BreakEdgesTest.run();
+        ReadingEdgesTest.run();
+        WorkEdgesTest.run();
+        TradeEdgesTest.run();
+        TellingEdgesTest.run();
         AnyCallTest.run();
         System.out.println(Due.passed + " passed, " + Due.failed + " failed");
         if (Due.failed != 0) {

@@ -118,6 +118,8 @@ final class States {
         }
         for (int farm = 0; farm < farms; farm++) {
             x.farm(farm % 4 + 1, -50 * farm);
+        }
+        for (int farm = 0; farm < farms; farm++) {
             x.owe(farm, (farm + farms - 1) % farms, 40 + farm);
         }
         for (int line = 0; line < lines; line++) {
