@@ -16,6 +16,7 @@ final class TextEdgesTest {
         toldLast();
         wrapping();
         comparedAsLongs();
+        lettersOfALot();
     }
 
     private static void bytes() {
@@ -230,5 +231,35 @@ final class TextEdgesTest {
         sums("C:2=1", 2, 1);
         sums("C:2<1", 2, 1);
         sums("C:2>1", 2, 1);
+    }
+
+    private static void lettersOfALot() {
+        ColdHolds x = new ColdHolds();
+        x.engine(0, 0);
+        x.outer(3, 0);
+        x.outer(8, 0);
+        x.warm(3, 600);
+        x.warm(8, -300);
+        x.hours(2);
+        x.lot(3, 3);
+        Due.tell(x, "W:r<t");
+        Due.tell(x, "S:h=k");
+        Due.is("r at once", x.sum(0, 0, 0), 0);
+        Due.is("t, the most", x.sum(0, 0, 1), 600);
+        Due.is("h at once", x.sum(1, 0, 0), 0);
+        Due.is("k", x.sum(1, 0, 1), 3);
+        x.hours(1);
+        x.lay(0, 8);
+        Due.is("r of where it lay", x.sum(0, 0, 0), 131);
+        Due.is("t, the least, of where it lies", x.sum(0, 0, 1), -300);
+        Due.is("h since it was laid first", x.sum(1, 0, 0), 1);
+        x.hours(2);
+        Due.is("r stays in the cold", x.sum(0, 0, 0), 131);
+        Due.is("h is k", x.says(1, 0), 1);
+        for (int i = 0; i < 3; i++) {
+            x.hours(300);
+        }
+        x.hours(295);
+        Due.is("h, the most here", x.sum(1, 0, 0), 1198);
     }
 }

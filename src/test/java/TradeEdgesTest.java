@@ -310,15 +310,17 @@ final class TradeEdgesTest {
         Due.is("two hold", x.stable(0), 2);
         Due.is("the first", x.stable(1), 1);
         // Alone (15 or 16 times 70 above 10 times 100), not both (21 * 70 below 15 * 100): the one with more SHIPS.
-        ColdHolds y = new ColdHolds();
-        y.line(5, 0);
-        y.line(6, 0);
-        y.ring(0, 10);
-        y.ring(1, 1);
-        y.ring(2, 70);
-        y.ring(3, 0);
-        Due.is("two hold", y.stable(0), 2);
-        Due.is("the greater", y.stable(1), 2);
+        for (int first = 5; first <= 6; first++) {
+            ColdHolds y = new ColdHolds();
+            y.line(first, 0);
+            y.line(11 - first, 0);
+            y.ring(0, 10);
+            y.ring(1, 1);
+            y.ring(2, 70);
+            y.ring(3, 0);
+            Due.is("two hold", y.stable(0), 2);
+            Due.is("the greater", y.stable(1), first == 6 ? 1 : 2);
+        }
     }
 
     private static void plan(ColdHolds x, int coin, int n, int set, int worst, int cost) {
