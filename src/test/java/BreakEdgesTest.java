@@ -12,6 +12,7 @@ final class BreakEdgesTest {
         theLessOfTwo();
         brokenAsTold();
         coalOnTheWay();
+        behindAllHours();
     }
 
     /** CELLS that keep the WARMTH they have, but under the PIPE of CELL 0. */
@@ -219,5 +220,23 @@ final class BreakEdgesTest {
             Due.is("back, COAL " + coal, x.lost(4, 1), rot(Math.min(4, coal / 2), 8) >= 600 ? 1 : 0);
             Due.is("no COAL is burnt by asking", x.count(2), coal);
         }
+    }
+
+    private static void behindAllHours() {
+        // No HOUR goes by any more, but lost() tells what would be, if some did.
+        ColdHolds x = still(500);
+        for (int i = 0; i < 4; i++) {
+            x.hours(300);
+        }
+        x.engine(1, 60);
+        x.engine(3, 9999);
+        x.lot(3, 0);
+        Due.is("back at once, never cooled", x.lost(0, 1), 1);
+        Due.is("8 HOURS on, not yet cold", x.lost(8, 1), 1);
+        Due.is("10 HOURS on, cold then", x.lost(10, 1), 0);
+        Due.is("300 HOURS on", x.lost(300, 1), 0);
+        Due.is("no HOURS are left to go on", x.lost(300, 0), 0);
+        x.hours(1);
+        Due.is("none goes by", x.count(1), 1200);
     }
 }

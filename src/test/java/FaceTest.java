@@ -38,6 +38,10 @@ final class FaceTest {
             boolean constant = Arrays.asList("NONE", "UNKNOWN", "OUTSIDE", "STATE", "FULL").contains(f.getName());
             Due.is(f + " is public", Modifier.isPublic(f.getModifiers()) ? 1 : 0, constant ? 1 : 0);
             Due.is(f + " is private", Modifier.isPrivate(f.getModifiers()) ? 1 : 0, constant ? 0 : 1);
+            if (constant) {
+                int plain = Modifier.PUBLIC | Modifier.STATIC | Modifier.FINAL;
+                Due.is(f + " is a constant", f.getType() == int.class ? f.getModifiers() : -1, plain);
+            }
         }
         Constructor<?>[] made = ColdHolds.class.getDeclaredConstructors();
         Due.is("constructors", made.length, 1);

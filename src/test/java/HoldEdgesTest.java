@@ -22,6 +22,7 @@ final class HoldEdgesTest {
         manyHoursAreSingleOnes();
         firstInJustSoMany();
         firstAboveNotAt();
+        firstBehindAllHours();
     }
 
     private static ColdHolds still() {
@@ -354,5 +355,18 @@ final class HoldEdgesTest {
         Due.is("nor ever", x.first(600, 300), -1);
         x.warm(0, 600);
         Due.is("CELL 0 now: 0", x.first(599, 300), 0);
+    }
+
+    private static void firstBehindAllHours() {
+        // No HOUR goes by any more, but first() tells what would be, if some did.
+        ColdHolds x = still();
+        for (int i = 0; i < 4; i++) {
+            x.hours(300);
+        }
+        x.outer(9, 20);
+        Due.is("the 1201st HOUR does not go by", x.hours(1), -103);
+        Due.is("above 100 if it did", x.first(100, 1), 1009);
+        Due.is("above 110 if two did", x.first(110, 300), 2009);
+        Due.is("not in one", x.first(110, 1), -1);
     }
 }

@@ -7,6 +7,7 @@ final class TellingTest {
         count();
         digestOfNothing();
         digestOfMuch();
+        asTheReadmeTells();
     }
 
     private static ColdHolds much() {
@@ -138,5 +139,15 @@ final class TellingTest {
         h = fold(h, 3, 9, 1, 2, 3, 2, 4, 2, 3, 5, 4, 6, 8);
         Due.is("digest of much", x.digest(), h);
         Due.is("digest again", x.digest(), h);
+    }
+
+    private static void asTheReadmeTells() {
+        ColdHolds x = new ColdHolds();
+        Due.is("the first LEG", x.leg(24, 200), 1);
+        Due.is("COAL was 0", x.engine(3, 40), 0);
+        Due.is("a CARCASS", x.lot(1, 0), 0);
+        Due.is("the ENGINE ran", x.hours(10), 10);
+        Due.is("ON", x.way(5), 0);
+        Due.is("no CELL 12", x.lot(1, 12), ColdHolds.UNKNOWN);
     }
 }

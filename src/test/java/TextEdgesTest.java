@@ -17,6 +17,7 @@ final class TextEdgesTest {
         wrapping();
         comparedAsLongs();
         lettersOfALot();
+        lettersOfEachLot();
     }
 
     private static void bytes() {
@@ -261,5 +262,32 @@ final class TextEdgesTest {
         }
         x.hours(295);
         Due.is("h, the most here", x.sum(1, 0, 0), 1198);
+    }
+
+    private static void lettersOfEachLot() {
+        // Each LOT has its own of all four letters: none speaks for another.
+        ColdHolds x = new ColdHolds();
+        x.engine(0, 0);
+        Due.tell(x, "W:r<t");
+        Due.tell(x, "S:h=k");
+        for (int lot = 0; lot < 12; lot++) {
+            int cell = 11 - lot;
+            x.outer(cell, 0);
+            x.warm(cell, 10 * lot + 1);
+            x.lot(lot % 6, cell);
+            x.hours(1);
+        }
+        for (int lot = 0; lot < 12; lot++) {
+            int carcass = (10 * lot + 51) / 10;
+            int[] spoils = {0, carcass, carcass, 2 * carcass + 1, 0, 10 * lot + 1 > 100 ? 1 : 0};
+            int hours = 12 - lot;
+            int rot = hours * spoils[lot % 6];
+            Due.is("r of LOT " + lot, x.sum(0, lot, 0), rot);
+            Due.is("t of LOT " + lot, x.sum(0, lot, 1), 10 * lot + 1);
+            Due.is("h of LOT " + lot, x.sum(1, lot, 0), hours);
+            Due.is("k of LOT " + lot, x.sum(1, lot, 1), lot % 6);
+            Due.is("W of LOT " + lot, x.says(0, lot), rot < 10 * lot + 1 ? 1 : 0);
+            Due.is("S of LOT " + lot, x.says(1, lot), hours == lot % 6 ? 1 : 0);
+        }
     }
 }

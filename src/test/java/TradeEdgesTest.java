@@ -321,6 +321,17 @@ final class TradeEdgesTest {
             Due.is("two hold", y.stable(0), 2);
             Due.is("the greater", y.stable(1), first == 6 ? 1 : 2);
         }
+        // LINES 0 and 1 together, or LINE 2 alone, which has as many SHIPS as they: 3 is less than 4, as bits.
+        ColdHolds bits = new ColdHolds();
+        bits.line(1, 45);
+        bits.line(1, 45);
+        bits.line(2, 0);
+        bits.ring(0, 70);
+        bits.ring(1, 10);
+        bits.ring(2, 80);
+        bits.ring(3, 0);
+        Due.is("these two hold", bits.stable(0), 2);
+        Due.is("the least, though of more LINES", bits.stable(1), 3);
     }
 
     private static void plan(ColdHolds x, int coin, int n, int set, int worst, int cost) {
@@ -394,5 +405,14 @@ final class TradeEdgesTest {
         plan(x, 16, 1, 7, 12, 16);
         x.gives(3, 0, 1);
         plan(x, 16, 1, 15, 13, 16);
+        // Two cheap ones or a dear one: 3 is less than 4, as bits.
+        ColdHolds bits = new ColdHolds();
+        for (int choice = 0; choice < 3; choice++) {
+            bits.choice(choice == 2 ? 8 : 4);
+            bits.gives(choice, 0, choice == 2 ? 6 : 3);
+        }
+        plan(bits, 8, 1, 3, 6, 8);
+        plan(bits, 7, 1, 1, 3, 4);
+        plan(bits, 12, 1, 5, 9, 12);
     }
 }
